@@ -345,10 +345,13 @@ public final class BranchStore {
             if (!isRow) {
                 return words.length;
             }
+            // Every letter's code ends with its only byte that is not 0.
             int letters = 0;
             int end = letterBytes();
-            for (int at = 0; at < end; at += bytesOfLetter(at)) {
-                letters++;
+            for (int at = 0; at < end; at++) {
+                if (byteAt(at) != 0) {
+                    letters++;
+                }
             }
             return letters;
         }
@@ -359,7 +362,7 @@ public final class BranchStore {
             }
             int at = 0;
             for (int letters = 0; letters < i; letters++) {
-                at += bytesOfLetter(at);
+                at += byteAt(at) == 0 ? 2 : 1;
             }
             return byteAt(at);
         }
@@ -370,16 +373,12 @@ public final class BranchStore {
 
         /** How many bytes of a row's code stand for its letters. */
         int letterBytes() {
-            // No letter's code ends with 0, so the last other byte is the last letter's.
+            // No letter's code ends with 0, so the last byte that is not 0 is the last letter's.
             int end = BYTES_OF_A_WORD * words.length;
             while (end > 0 && byteAt(end - 1) == 0) {
                 end--;
             }
             return end;
-        }
-
-        private int bytesOfLetter(int at) {
-            return byteAt(at) == 0 ? 2 : 1;
         }
 
         private int byteAt(int at) {

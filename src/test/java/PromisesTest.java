@@ -361,6 +361,7 @@ public final class PromisesTest {
         for (String key : keys) {
             BranchStore s = rows(key);
             s.seek(5);
+            s.erase();
             Check.same("14: bytes", s.length(), key.length());
         }
     }
@@ -383,6 +384,7 @@ public final class PromisesTest {
         String key = "\0\u00ff\u00fe\1\0\0a\u0080";
         BranchStore rows = rows(key);
         rows.seek(4);
+        rows.erase();
         for (int i = 0; i < key.length(); i++) {
             Check.same("15: byte " + i, rows.part(i), (int) key.charAt(i));
         }
@@ -605,6 +607,10 @@ public final class PromisesTest {
         Check.same("24: the deepest is on the left", left.about(5) + ", " + sizesOf(left), "3, 4 0 0 0");
         BranchStore right = numbers(0, 65536, 65537, 65792);
         Check.same("24: the deepest is on the right", right.about(5) + ", " + sizesOf(right), "3, 3 0 0 0");
+        BranchStore middle = numbers(0, 65536, 65537, 65792, 131072);
+        Check.same("24: the deepest is in the middle", middle.about(5) + ", " + sizesOf(middle), "3, 3 0 0 0");
+        BranchStore first = numbers(0, 1, 256, 65536, 65537, 131072);
+        Check.same("24: the middle is less deep than the left", first.about(5) + ", " + sizesOf(first), "3, 4 0 0 0");
     }
 
     private static void promise24AboutRows() {
