@@ -7,15 +7,21 @@ final class Check {
 
     private static int wrong = 0;
     private static int made = 0;
+    private static String subject = "";
 
     private Check() {
+    }
+
+    /** What the checks from here on are about; told with those that are wrong. */
+    static void about(String what) {
+        subject = what.isEmpty() ? "" : what + "\n  ";
     }
 
     static void same(String what, Object got, Object due) {
         made++;
         if (!String.valueOf(got).equals(String.valueOf(due))) {
             wrong++;
-            System.out.println(what + ": answered " + got + ", due is " + due);
+            System.out.println(subject + what + ": answered " + got + ", due is " + due);
         }
     }
 

@@ -1,15 +1,5 @@
-import java.util.NoSuchElementException;
-
 /** The promises one by one: ordinary inputs, the edges that the document names, and wrong inputs. */
-public final class PromisesTest {
-    private static final Class<IllegalStateException> STATE = IllegalStateException.class;
-    private static final Class<IllegalArgumentException> ARGUMENT = IllegalArgumentException.class;
-    private static final Class<UnsupportedOperationException> FULL = UnsupportedOperationException.class;
-    private static final Class<NoSuchElementException> ABSENT = NoSuchElementException.class;
-    private static final Class<IndexOutOfBoundsException> INDEX = IndexOutOfBoundsException.class;
-    private static final long MAX = Long.MAX_VALUE;
-    private static final long MIN = Long.MIN_VALUE;
-
+public final class PromisesTest extends Cases {
     public static void main(String[] args) {
         promise1NewObject();
         promise2Number();
@@ -252,7 +242,8 @@ public final class PromisesTest {
         s.load(2, 1500, 0);
         s.number(1);
         Check.fails("8: 1500 others", FULL, () -> s.put(1));
-        Check.same("8: nothing has changed", s.about(0) + "," + s.rank() + "," + Check.outcome(s::get), "1500,1,throws.NoSuchElementException");
+        Check.same("8: nothing has changed", s.about(0) + "," + s.rank() + "," + Check.outcome(s::get),
+            "1500,1,throws.NoSuchElementException");
         s.number(2998);
         Check.same("8: 1499 others", s.put(-1) + "," + s.get(), "false,-1");
         s.remove();
@@ -416,7 +407,10 @@ public final class PromisesTest {
             s.number(hands[i]);
             Check.same("17: rank of " + hands[i], s.rank(), due[i]);
         }
-        String[] ordered = {"", "\0", "\0\0", "\0\1", "\0\u00ff", "\1", "a", "a\0", "a\0\0", "a\1", "ab", "b", "\u007f", "\u0080", "\u00ff", "\u00ff\0", "\u00ff\u00ff"};
+        String[] ordered = {
+            "", "\0", "\0\0", "\0\1", "\0\u00ff", "\1", "a", "a\0", "a\0\0", "a\1", "ab", "b",
+            "\u007f", "\u0080", "\u00ff", "\u00ff\0", "\u00ff\u00ff",
+        };
         BranchStore rows = rows(ordered);
         for (int i = 0; i < ordered.length; i++) {
             row(rows, ordered[i]);
@@ -558,7 +552,8 @@ public final class PromisesTest {
     private static void promise24AboutSizes() {
         int[] counts = {0, 1, 2, 4, 5, 16, 17, 48, 49, 256, 257, 512};
         String[] due = {
-            "0 0 0 0", "0 0 0 0", "1 0 0 0", "1 0 0 0", "0 1 0 0", "0 1 0 0", "0 0 1 0", "0 0 1 0", "0 0 0 1", "0 0 0 1", "1 0 0 1", "1 0 0 2",
+            "0 0 0 0", "0 0 0 0", "1 0 0 0", "1 0 0 0", "0 1 0 0", "0 1 0 0", "0 0 1 0", "0 0 1 0",
+            "0 0 0 1", "0 0 0 1", "1 0 0 1", "1 0 0 2",
         };
         for (int i = 0; i < counts.length; i++) {
             BranchStore s = new BranchStore(0);

@@ -3,7 +3,6 @@ import java.nio.ByteBuffer;
 import java.nio.charset.StandardCharsets;
 import java.util.ArrayList;
 import java.util.Collections;
-import java.util.Comparator;
 import java.util.HashMap;
 import java.util.HashSet;
 import java.util.List;
@@ -218,17 +217,8 @@ public final class RandomCallsTest {
 
     /** The document, word by word. */
     private static final class Model {
-        private static final Comparator<List<Long>> ORDER = (a, b) -> {
-            for (int i = 0; i < Math.min(a.size(), b.size()); i++) {
-                if (!a.get(i).equals(b.get(i))) {
-                    return Long.compare(a.get(i), b.get(i));
-                }
-            }
-            return Integer.compare(a.size(), b.size());
-        };
-
         private final int sort;
-        private final TreeMap<List<Long>, Long> keys = new TreeMap<>(ORDER);
+        private final TreeMap<List<Long>, Long> keys = new TreeMap<>(Situation.ORDER);
         private List<Long> hand;
         private List<Long> other;
         private List<Long> cursor = null;
@@ -376,7 +366,7 @@ public final class RandomCallsTest {
         private Set<List<Long>> inRange() {
             Set<List<Long>> found = new HashSet<>();
             for (List<Long> key : keys.keySet()) {
-                if (ORDER.compare(key, other) >= 0 && ORDER.compare(key, hand) <= 0) {
+                if (Situation.ORDER.compare(key, other) >= 0 && Situation.ORDER.compare(key, hand) <= 0) {
                     found.add(key);
                 }
             }
