@@ -218,6 +218,7 @@ final class OrderCases extends Cases {
         loads(MIN, 1L << 62, 4, 0);
         // 1499 steps of this length go from the least number nearly to the greatest.
         loads(MIN, 12306033404742862L, 1500, 0);
+        loadsEachOf1500();
         Situation gone = Situation.numbers().hand(2).cursor(2);
         does(gone, gone.loaded(2, 1, 2, 6), "load when all keys have gone", s -> {
             s.put(1);
@@ -233,6 +234,17 @@ final class OrderCases extends Cases {
             s.load(9, 0, 9);
             s.load(1, 2, 6);
         });
+    }
+
+    /** One object has too few calls to look at them all. */
+    private static void loadsEachOf1500() {
+        for (int from = 0; from < 1500; from += 250) {
+            BranchStore s = Situation.numbers().loaded(-9, 5, 1500, MAX - 700).made();
+            for (int i = from; i < from + 250; i++) {
+                s.number(-9 + 5 * i);
+                Check.answers("value " + i + " of 1500 loaded", MAX - 700 + i, s::get);
+            }
+        }
     }
 
     private static void loadWrongly() {

@@ -70,8 +70,26 @@ final class ShapeCases extends Cases {
         tells(someRows().hand(row("a\0")), "4 2 0 0 0 2 2 3");
         tells(full().hand(2998), "1500 0 1 0 12 2 2 0");
         tells(full().hand(2999), "1500 0 1 0 12 2 -1 0");
+        aboutTheDeepest();
         aboutTheBranchWithoutBytes();
         aboutAfterChanges();
+    }
+
+    private static Situation numbersOf(long... keys) {
+        Situation all = Situation.numbers().hand(keys[0]);
+        for (long key : keys) {
+            all = all.with(0, key);
+        }
+        return all;
+    }
+
+    /** Wherever the deepest key stands among the others. */
+    private static void aboutTheDeepest() {
+        tells(numbersOf(0, 1, 256, 257, 65536), "5 4 0 0 0 3 3 0");
+        tells(numbersOf(0, 65536, 65537, 65792), "4 3 0 0 0 3 1 0");
+        tells(numbersOf(0, 65536, 65537, 65792, 131072), "5 3 0 0 0 3 1 0");
+        tells(numbersOf(0, 1, 256, 65536, 65537, 131072), "6 4 0 0 0 3 3 0");
+        tells(numbersOf(0, 65536, 131072, 131073, 131328), "5 3 0 0 0 3 1 0");
     }
 
     private static void aboutTheBranchWithoutBytes() {
@@ -98,6 +116,12 @@ final class ShapeCases extends Cases {
             s.clear();
             s.put(9);
             return allOf(s);
+        });
+        Situation ends = Situation.numbers().with(1, MIN).with(2, MAX).with(3, MAX - 1).hand(MIN);
+        changes(ends, ends.without(MIN), "2 0", "about(7) before the branch without bytes goes, and behind", s -> {
+            int children = s.about(7);
+            s.remove();
+            return children + " " + s.about(7);
         });
         Situation range = before.other(0);
         changes(range, range.without(1).without(2), "3, 1 0 0 0 0 0 -1 0", "about before a cut, and behind", s -> {

@@ -3,7 +3,9 @@ import java.util.Collections;
 import java.util.Comparator;
 import java.util.List;
 import java.util.Map;
+import java.util.Set;
 import java.util.TreeMap;
+import java.util.TreeSet;
 
 /**
  * The whole state of a store, in the document's terms: its keys with their values, the key at hand, the
@@ -208,13 +210,25 @@ final class Situation {
         return shape.append(s.compact()).toString();
     }
 
-    private int stride() {
-        return 1 + keys.size() / PLACES_LOOKED_AT;
+    /** All of them if they are few; else some, with the ends and those beside the key at hand. */
+    private Set<Integer> placesToLookAt() {
+        Set<Integer> places = new TreeSet<>();
+        int stride = 1 + keys.size() / PLACES_LOOKED_AT;
+        for (int k = 0; k < keys.size(); k += stride) {
+            places.add(k);
+        }
+        int rank = keys.headMap(hand, false).size();
+        for (int k : new int[] {rank - 1, rank, rank + 1, keys.size() - 1}) {
+            if (k >= 0 && k < keys.size()) {
+                places.add(k);
+            }
+        }
+        return places;
     }
 
     private String keysOf(BranchStore s) {
         StringBuilder found = new StringBuilder().append(s.about(0)).append(':');
-        for (int k = 0; k < keys.size(); k += stride()) {
+        for (int k : placesToLookAt()) {
             s.select(k);
             found.append(' ').append(keyAtCursor(s)).append('=').append(s.value());
         }
@@ -224,7 +238,7 @@ final class Situation {
     private String keysDue() {
         StringBuilder due = new StringBuilder().append(keys.size()).append(':');
         List<List<Long>> ordered = new ArrayList<>(keys.keySet());
-        for (int k = 0; k < ordered.size(); k += stride()) {
+        for (int k : placesToLookAt()) {
             due.append(' ').append(ordered.get(k)).append('=').append(keys.get(ordered.get(k)));
         }
         return due.toString();
