@@ -511,7 +511,9 @@ public final class BranchStore {
     /**
      * The tree's branches. What two neighbours share is a branch, and every branch is shared by as many
      * pairs of neighbours as it has children, less one. Going through the keys, the branches with which
-     * the last key begins are open, the longest on top; none comes to a branch that has been closed.
+     * the last key begins are open, the longest on top; none comes to a branch that has been closed. No two
+     * of the open ones are of one length, and all are shorter than a code, so as many places as a code can
+     * have bytes are enough for them.
      */
     private static final class Shape {
         final int[] branchesOfSize;
